@@ -1,0 +1,87 @@
+import java.io.IOException;
+import java.lang.reflect.Constructor;
+import java.lang.reflect.Field;
+import java.lang.reflect.Method;
+import java.lang.reflect.Modifier;
+import java.nio.file.Files;
+import java.nio.file.Path;
+import java.util.Set;
+import java.util.TreeSet;
+import java.util.regex.Matcher;
+import java.util.regex.Pattern;
+
+/** The rules of LANGUAGE.md that can be seen in the text of the class or in its face. */
+public final class LanguageTest {
+    private static final Set<String> FACE = Set.of("point", "drop", "move", "pointOf", "turn", "round", "hull", "corner",
+            "area", "triangles", "triangle", "ring", "edge", "where", "nearest", "cross", "around", "begin", "held",
+            "bad", "flip", "settle", "alike", "bads", "count");
+    private static final Pattern FORBIDDEN = Pattern.compile(
+            "\\b(throw|throws|try|catch|synchronized|assert|package|double|float|Random|Thread|native)\\b|->|::|\\w+Exact\\b");
+    private static int wrong = 0;
+
+    public static void main(String[] args) throws IOException {
+        String code = withoutComments(Files.readString(Path.of("src/main/java/SignBench.java")));
+        Matcher found = FORBIDDEN.matcher(code);
+        while (found.find()) complain("the text has '" + found.group() + "'");
+        Matcher imports = Pattern.compile("import ([^;]*);").matcher(code);
+        while (imports.find()) {
+            if (!imports.group(1).equals("java.util.Arrays")) complain("imports " + imports.group(1));
+        }
+        rowsAreMadeOnce(code);
+        face();
+        for (Class<?> inner : SignBench.class.getDeclaredClasses()) nested(inner);
+        System.out.println(wrong == 0 ? "the language is kept" : wrong + " rules are broken");
+        if (wrong != 0) System.exit(1);
+    }
+
+    private static void complain(String what) {
+        wrong++;
+        System.out.println(what);
+    }
+
+    private static String withoutComments(String code) {
+        return code.replaceAll("(?s)/\\*.*?\\*/", " ").replaceAll("//[^\n]*", " ");
+    }
+
+    /** All calls of a run share one room: nothing is made but in fields of a new object. */
+    private static void rowsAreMadeOnce(String code) {
+        for (String line : code.split("\n")) {
+            if (line.contains("new ") && !line.matches("\\s*(private )?final [\\w\\[\\]]+ \\w+ = new .*;\\s*")) {
+                complain("makes something in a call:" + line);
+            }
+        }
+    }
+
+    private static void face() {
+        Class<?> face = SignBench.class;
+        if (!Modifier.isPublic(face.getModifiers()) || !Modifier.isFinal(face.getModifiers())) complain("not public and final");
+        Set<String> seen = new TreeSet<>();
+        for (Method m : face.getDeclaredMethods()) {
+            if (Modifier.isPublic(m.getModifiers())) seen.add(m.getName());
+            else if (!Modifier.isPrivate(m.getModifiers()) || FACE.contains(m.getName())) complain("method " + m);
+        }
+        if (!seen.equals(new TreeSet<>(FACE))) complain("the face is " + seen);
+        for (Field f : face.getDeclaredFields()) if (!Modifier.isPrivate(f.getModifiers())) complain("field " + f);
+        for (Constructor<?> c : face.getDeclaredConstructors()) {
+            if (!Modifier.isPublic(c.getModifiers()) || c.getParameterCount() != 0) complain("constructor " + c);
+        }
+        fields(face);
+    }
+
+    private static void nested(Class<?> inner) {
+        if (!Modifier.isStatic(inner.getModifiers())) complain("not static: " + inner);
+        for (Method m : inner.getDeclaredMethods()) {
+            if (FACE.contains(m.getName()) || m.getParameterCount() > 7) complain("method " + m);
+        }
+        fields(inner);
+    }
+
+    private static void fields(Class<?> type) {
+        int held = 0;
+        for (Field f : type.getDeclaredFields()) {
+            if (!Modifier.isStatic(f.getModifiers())) held++;
+            else if (!Modifier.isFinal(f.getModifiers())) complain("static state " + f);
+        }
+        if (held > 20) complain("too many fields in " + type);
+    }
+}
