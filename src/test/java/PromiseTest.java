@@ -112,6 +112,7 @@ public final class PromiseTest {
         due(2, "point(5, 25), the 41st", x.point(5, 25), -6);
         due(2, "point(0, 0), full and taken", x.point(0, 0), -6);
         due(2, "point(0, -10001), full and below", x.point(0, -10001), -4);
+        due(3, "drop(40), full", x.drop(40), -1);
         due(2, "count(0)", x.count(0), 40);
         due(2, "count(1)", x.count(1), 39);
         due(4, "move(0, 5, 25), full", x.move(0, 5, 25), 1);
@@ -146,6 +147,7 @@ public final class PromiseTest {
         due(4, "move(0, 0, 10001)", x.move(0, 0, 10001), -6);
         due(4, "move(0, 10001, 0)", x.move(0, 10001, 0), -6);
         due(4, "move(0, 4, 0)", x.move(0, 4, 0), -5);
+        due(4, "move(1, 0, 0)", x.move(1, 0, 0), -5);
         due(4, "count(4) after refusals", x.count(4), 0);
         due(4, "pointOf(0, 0)", x.pointOf(0, 0), 0);
         due(4, "move(0, 10000, -10000)", x.move(0, 10000, -10000), 1);
@@ -268,8 +270,8 @@ public final class PromiseTest {
         due(9, "corner(1)", x.corner(1), 3);
         due(10, "area()", x.area(), 44);
         SignBench wide = of(10000, 10000, -10000, 10000, -10000, -10000, 10000, -10000);
+        due(9, "corner(0), the first call", wide.corner(0), 2);
         due(10, "area()", wide.area(), 800000000L);
-        due(9, "corner(0)", wide.corner(0), 2);
     }
 
     private static void hullOfFlatOnes() {
@@ -407,6 +409,8 @@ public final class PromiseTest {
         due(17, "cross(1, 0, 3, 2)", x.cross(1, 0, 3, 2), 2);
         due(17, "cross(0, 1, 2, 4), an end on the way", x.cross(0, 1, 2, 4), 1);
         due(17, "cross(2, 4, 0, 1)", x.cross(2, 4, 0, 1), 1);
+        due(17, "cross(0, 1, 4, 3)", x.cross(0, 1, 4, 3), 1);
+        due(17, "cross(0, 1, 3, 4)", x.cross(0, 1, 3, 4), 1);
         due(17, "cross(0, 1, 1, 3), one end", x.cross(0, 1, 1, 3), 1);
         due(17, "cross(0, 1, 1, 0), the same way", x.cross(0, 1, 1, 0), 1);
         due(17, "cross(0, 1, 4, 5), over one another", x.cross(0, 1, 4, 5), 1);
@@ -420,6 +424,10 @@ public final class PromiseTest {
         due(17, "cross(1, 2, 0, 0)", x.cross(1, 2, 0, 0), -1);
         due(17, "cross(0, 1, 2, 9)", x.cross(0, 1, 2, 9), -1);
         due(17, "cross(-1, 1, 2, 3)", x.cross(-1, 1, 2, 3), -1);
+        SignBench straight = of(0, 0, 0, 4, 0, 2, -3, 2, 3, 2, -1, 2, -1, 5);
+        due(17, "cross(0, 1, 2, 3), an end on an upright way", straight.cross(0, 1, 2, 3), 1);
+        due(17, "cross(3, 4, 5, 6), an end on a level way", straight.cross(3, 4, 5, 6), 1);
+        due(17, "cross(0, 1, 3, 5), beside an upright way", straight.cross(0, 1, 3, 5), 0);
         SignBench wide = of(-10000, -10000, 10000, 10000, -10000, 9999, 10000, -9998);
         due(17, "cross(0, 1, 2, 3), between the grid's places", wide.cross(0, 1, 2, 3), 2);
     }
@@ -474,6 +482,9 @@ public final class PromiseTest {
         SignBench right = of(0, 0, 1, 1, 2, 2, 3, 0);
         due(19, "begin()", right.begin(), 2);
         dueHeld(19, right, 0, 3, 1, 1, 3, 2);
+        SignBench below = of(3, 1, 4, -5, 0, 0, 1, 0, 2, 0);
+        due(19, "begin()", below.begin(), 5);
+        dueHeld(19, below, 0, 2, 3, 0, 3, 4, 0, 4, 1, 1, 3, 2, 1, 4, 3);
     }
 
     /** One that lies on the line of a side is not outside of it; sides along one line stay sides. */
