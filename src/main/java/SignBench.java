@@ -190,9 +190,9 @@ public final class SignBench {
             return refuseToldApart(fault);
         }
         int best = NONE;
-        long least = Long.MAX_VALUE;
+        long least = 0;
         for (int p = 0; p < points.told; p++) {
-            if (points.isThere(p) && points.squareTo(p, x, y) < least) {
+            if (points.isThere(p) && (best == NONE || points.squareTo(p, x, y) < least)) {
                 least = points.squareTo(p, x, y);
                 best = p;
             }

@@ -17,6 +17,9 @@ public final class LanguageTest {
             "bad", "flip", "settle", "alike", "bads", "count");
     private static final Pattern FORBIDDEN = Pattern.compile(
             "\\b(throw|throws|try|catch|synchronized|assert|package|double|float|Random|Thread|native)\\b|->|::|\\w+Exact\\b");
+    private static final Set<String> LIBRARY = Set.of("Math.min", "Math.max", "Math.abs", "Arrays.fill", "Arrays.copyOf",
+            "Arrays.copyOfRange", "System.arraycopy", "Integer.compare", "Long.compare");
+    private static final int LONGEST_METHOD = 60;
     private static int wrong = 0;
 
     public static void main(String[] args) throws IOException {
@@ -28,6 +31,8 @@ public final class LanguageTest {
             if (!imports.group(1).equals("java.util.Arrays")) complain("imports " + imports.group(1));
         }
         rowsAreMadeOnce(code);
+        library(code);
+        methodsAreShort(code);
         face();
         for (Class<?> inner : SignBench.class.getDeclaredClasses()) nested(inner);
         System.out.println(wrong == 0 ? "the language is kept" : wrong + " rules are broken");
@@ -50,6 +55,26 @@ public final class LanguageTest {
                 complain("makes something in a call:" + line);
             }
         }
+    }
+
+    /** Rule 4: only what stands there, so no constants of the library's classes either. */
+    private static void library(String code) {
+        Matcher used = Pattern.compile("\\b(Math|Arrays|System|Integer|Long|Character|Boolean|String|Double)\\.\\w+").matcher(code);
+        while (used.find()) {
+            if (!LIBRARY.contains(used.group())) complain("uses " + used.group());
+        }
+    }
+
+    /** Rule 11, by the indentation of the opening and the closing line. */
+    private static void methodsAreShort(String code) {
+        Matcher method = Pattern.compile("(?m)^((?:    ){1,2})(?!.*\\bclass\\b)\\w[^;=]*\\) \\{\n(?:(?!\\1\\}).*\n)*\\1\\}").matcher(code);
+        int seen = 0;
+        while (method.find()) {
+            seen++;
+            long lines = method.group().lines().count();
+            if (lines > LONGEST_METHOD) complain(lines + " lines: " + method.group().lines().findFirst().orElse(""));
+        }
+        if (seen < FACE.size()) complain("only " + seen + " methods were found");
     }
 
     private static void face() {

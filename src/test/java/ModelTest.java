@@ -1,6 +1,10 @@
 import java.util.Random;
 
-/** Long runs of calls by chance (always the same ones), each answer held against the Model's. */
+/**
+ * Long runs of calls by chance (always the same ones), each answer held against the Model's. With
+ * its looks at everything a run goes past the 512 calls that are promised: the class counts none,
+ * and a fault in what it keeps shows the better.
+ */
 public final class ModelTest {
     private static final int RUNS = 144;
     private static final int CALLS = 512;
