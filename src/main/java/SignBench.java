@@ -771,8 +771,12 @@ public final class SignBench {
 
         int countBadSides() {
             int found = 0;
-            for (int side = firstBadSide(0); side < SIDES; side = firstBadSide(side + 1)) {
-                found++;
+            for (int a = 0; a < MOST_POINTS; a++) {
+                for (int b = a + 1; b < MOST_POINTS; b++) {
+                    if (isBadSide(a, b)) {
+                        found++;
+                    }
+                }
             }
             return found;
         }

@@ -12,6 +12,7 @@ public final class BoundaryTest {
         new PlaceBoundaries(ledger).run();
         new HandBoundaries(ledger).run();
         new SettlingBoundaries(ledger).run();
+        new LastNumberBoundaries(ledger).run();
         new RefusalBoundaries(ledger).run();
         if (!ledger.close()) System.exit(1);
     }

@@ -1,3 +1,5 @@
+import static java.util.Map.entry;
+
 import java.io.IOException;
 import java.lang.reflect.Constructor;
 import java.lang.reflect.Field;
@@ -5,16 +7,23 @@ import java.lang.reflect.Method;
 import java.lang.reflect.Modifier;
 import java.nio.file.Files;
 import java.nio.file.Path;
+import java.util.Map;
 import java.util.Set;
-import java.util.TreeSet;
+import java.util.TreeMap;
 import java.util.regex.Matcher;
 import java.util.regex.Pattern;
 
 /** The rules of LANGUAGE.md that can be seen in the text of the class or in its face. */
 public final class LanguageTest {
-    private static final Set<String> FACE = Set.of("point", "drop", "move", "pointOf", "turn", "round", "hull", "corner",
-            "area", "triangles", "triangle", "ring", "edge", "where", "nearest", "cross", "around", "begin", "held",
-            "bad", "flip", "settle", "alike", "bads", "count");
+    /** The document's methods by name, each with its answer's type and how many ints it takes. */
+    private static final Map<String, String> FACE = Map.ofEntries(
+            entry("point", "int 2"), entry("drop", "int 1"), entry("move", "int 3"), entry("pointOf", "int 2"),
+            entry("turn", "int 3"), entry("round", "int 4"), entry("hull", "int 0"), entry("corner", "int 1"),
+            entry("area", "long 0"), entry("triangles", "int 0"), entry("triangle", "int 2"), entry("ring", "int 1"),
+            entry("edge", "int 2"), entry("where", "int 2"), entry("nearest", "int 2"), entry("cross", "int 4"),
+            entry("around", "int 2"), entry("begin", "int 0"), entry("held", "int 2"), entry("bad", "int 2"),
+            entry("flip", "int 2"), entry("settle", "int 1"), entry("alike", "int 0"), entry("bads", "int 0"),
+            entry("count", "int 1"));
     private static final Pattern FORBIDDEN = Pattern.compile(
             "\\b(throw|throws|try|catch|synchronized|assert|package|double|float|Random|Thread|native)\\b|->|::|\\w+Exact\\b");
     private static final Set<String> LIBRARY = Set.of("Math.min", "Math.max", "Math.abs", "Arrays.fill", "Arrays.copyOf",
@@ -80,23 +89,31 @@ public final class LanguageTest {
     private static void face() {
         Class<?> face = SignBench.class;
         if (!Modifier.isPublic(face.getModifiers()) || !Modifier.isFinal(face.getModifiers())) complain("not public and final");
-        Set<String> seen = new TreeSet<>();
+        Map<String, String> seen = new TreeMap<>();
         for (Method m : face.getDeclaredMethods()) {
-            if (Modifier.isPublic(m.getModifiers())) seen.add(m.getName());
-            else if (!Modifier.isPrivate(m.getModifiers()) || FACE.contains(m.getName())) complain("method " + m);
+            if (Modifier.isPublic(m.getModifiers())) addToFace(m, seen);
+            else if (!Modifier.isPrivate(m.getModifiers()) || FACE.containsKey(m.getName())) complain("method " + m);
         }
-        if (!seen.equals(new TreeSet<>(FACE))) complain("the face is " + seen);
+        if (!seen.equals(FACE)) complain("the face is " + seen);
         for (Field f : face.getDeclaredFields()) if (!Modifier.isPrivate(f.getModifiers())) complain("field " + f);
+        if (face.getDeclaredConstructors().length != 1) complain("more than one constructor");
         for (Constructor<?> c : face.getDeclaredConstructors()) {
             if (!Modifier.isPublic(c.getModifiers()) || c.getParameterCount() != 0) complain("constructor " + c);
         }
         fields(face);
     }
 
+    private static void addToFace(Method m, Map<String, String> seen) {
+        for (Class<?> taken : m.getParameterTypes()) if (taken != int.class) complain("takes no int: " + m);
+        if (Modifier.isStatic(m.getModifiers())) complain("static " + m);
+        String before = seen.put(m.getName(), m.getReturnType() + " " + m.getParameterCount());
+        if (before != null) complain("a second " + m);
+    }
+
     private static void nested(Class<?> inner) {
         if (!Modifier.isStatic(inner.getModifiers())) complain("not static: " + inner);
         for (Method m : inner.getDeclaredMethods()) {
-            if (FACE.contains(m.getName()) || m.getParameterCount() > 7) complain("method " + m);
+            if (FACE.containsKey(m.getName()) || m.getParameterCount() > 7) complain("method " + m);
         }
         fields(inner);
     }
